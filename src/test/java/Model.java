@@ -9,7 +9,7 @@ import java.util.TreeMap;
 final class Model {
     private static final int BAD = -1, STATE = -2, FULL = -3, NONE = -4;
 
-    private static final class Phrase implements Cloneable {
+    private static final class Phrase {
         int quantifier, noun, host = NONE, verb = NONE, guest = NONE;
 
         Phrase copy() {
