@@ -34,6 +34,7 @@ public final class EdgeReadingsTest {
         readingLeadingZeros();
         holdsNoSuch();
         holdsInTheWorldOfFour();
+        holdsWithFourPhrases();
         smallNoSuch();
         smallLeastAndMost();
         smallBitFourIsNothing();
@@ -43,6 +44,7 @@ public final class EdgeReadingsTest {
         alikeNoSuch();
         alikePerhapsItself();
         alikeInSmallWorldsAlone();
+        unlikeInTheLeastWorldsAlone();
         entailsNoSuch();
         entailsNoneAndAll();
         mostNoSuch();
@@ -52,6 +54,10 @@ public final class EdgeReadingsTest {
         witnessNone();
         witnessFirst();
         witnessIsTheWorld();
+        answersFollowBecomes();
+        answersFollowTheText();
+        answersFollowDraw();
+        answersFollowBack();
         CHECK.close();
     }
 
@@ -290,10 +296,12 @@ public final class EdgeReadingsTest {
     private static void readingNotJustOnce() {
         CHECK.of("promise 13: BAD: not each just once");
         for (int s = 0; s < STRUCTURES.length; s++) {
-            ScopedPhrases x = told(STRUCTURES[s]);
+            ScopedPhrases x = null;
             int n = PHRASES[s];
             int taken = 0;
             for (int figures = 0; figures < 10000; figures++) {
+                // an object is used for at most 512 calls
+                x = figures % 400 == 0 ? told(STRUCTURES[s]) : x;
                 int seen = 0;
                 int left = figures;
                 for (int i = 0; i < n; i++) {
@@ -357,6 +365,39 @@ public final class EdgeReadingsTest {
             x.is(0, n - 1, 0);
             due("who is no man, of " + n, x.holds(0), 1);
         }
+    }
+
+    /** Some SMALL WORLDS of both sizes, the least and the most among them. */
+    private static final int[] SOME_WORLDS = {0, 7, 31, 32, 100, 777, 2345, 4127};
+
+    /** A READING's answers for SOME_WORLDS, asked both ways. */
+    private static void inSomeWorlds(ScopedPhrases x, int r, int... want) {
+        for (int i = 0; i < SOME_WORLDS.length; i++) {
+            int w = SOME_WORLDS[i];
+            due("small(" + r + ", " + w + ")", x.small(r, w), want[i]);
+            x.world(w);
+            due("holds(" + r + ") in " + w, x.holds(r), want[i]);
+        }
+    }
+
+    /** Answers worked out apart from the class. */
+    private static void holdsWithFourPhrases() {
+        CHECK.of("1: PHRASES 0 on (2 to 4) .. 2: A READING HOLDS in a WORLD");
+        String chainsOfTwo = "some man that likes no dog sees one man that likes every dog;";
+        many(chainsOfTwo, 1240, 1504, 3506, 3512, 3560, 3504, 3574, 856, 552, 1504, 3280, 3346, 1504, 1574);
+        ScopedPhrases x = told(chainsOfTwo);
+        inSomeWorlds(x, 0, 0, 0, 0, 0, 0, 1, 0, 0);
+        inSomeWorlds(x, 13, 1, 0, 0, 1, 0, 1, 0, 0);
+        String subjectChain = "one dog that likes no man that sees every dog sees some man;";
+        many(subjectChain, 1564, 1516, 3618, 3602, 2144, 3426, 3408, 2246, 2840, 1788, 1698, 2706, 1974, 2572);
+        x = told(subjectChain);
+        inSomeWorlds(x, 0, 0, 1, 0, 0, 0, 1, 0, 0);
+        inSomeWorlds(x, 13, 0, 1, 0, 0, 0, 1, 1, 1);
+        String objectChain = "every man likes one dog that sees no man that likes some dog;";
+        many(objectChain, 2226, 2074, 3280, 2082, 2716, 1252, 1056, 3504, 3498, 1810, 2448, 1056, 2640, 2626);
+        x = told(objectChain);
+        inSomeWorlds(x, 0, 1, 0, 0, 1, 1, 0, 1, 0);
+        inSomeWorlds(x, 13, 0, 1, 0, 0, 1, 0, 1, 1);
     }
 
     // ---- promise 15
@@ -506,6 +547,22 @@ public final class EdgeReadingsTest {
         due("the world stays", x.rule(5), 3);
     }
 
+    private static void unlikeInTheLeastWorldsAlone() {
+        CHECK.of("2: ALIKE, if they HOLD in the same SMALL WORLDS (numbers 0 to 31, too)");
+        String text = "one man that likes some man that likes every man sees every man;";
+        alike(text, 0, 1, 0, 3, 4, 5, 6, 7, 6, 3, 3, 3, 7, 6);
+        ScopedPhrases x = told(text);
+        for (int w = 32; w < 4128; w += 37) {
+            due("alike in " + w, x.small(1, w), x.small(0, w));
+        }
+        due("1 does not entail 0", x.entails(1, 0), 0);
+        due("0 entails 1", x.entails(0, 1), 1);
+        due("witness(1, 0)", x.witness(1, 0), 0);
+        due("witness(0, 1)", x.witness(0, 1), NONE);
+        due("many(0)", x.many(0), 652);
+        due("many(1)", x.many(1), 668);
+    }
+
     // ---- promise 18
 
     private static void entailsNoSuch() {
@@ -570,6 +627,12 @@ public final class EdgeReadingsTest {
         most("every dog that likes no man sees no man;", NONE, NONE);
         ScopedPhrases x = told("no man sees no dog;");
         due("BAD fits first", x.most(2), BAD);
+        // READINGS that there were before, with more PHRASES, are none now
+        x = told("one dog that sees some man sees one dog that likes no dog;");
+        x.most(1);
+        Check.tell(x, "every man that sees one dog sees every dog;");
+        due("most(1) behind more", x.most(1), NONE);
+        due("most(0) behind more", x.most(0), NONE);
     }
 
     // ---- promise 20
@@ -661,5 +724,106 @@ public final class EdgeReadingsTest {
         due("witness(0, 1)", x.witness(0, 1), 0);
         due("things", x.rule(5), 1);
         due("no second thing", x.told(0, 1, 0), BAD);
+    }
+
+    // ---- what has been asked before leaves no trace in the answers
+
+    /** All that many, alike, entails, most and rule 4 tell, and that HOLDS in a world. */
+    private static String answers(ScopedPhrases x) {
+        StringBuilder text = new StringBuilder();
+        int readings = x.rule(3);
+        for (int r = 0; r < readings; r++) {
+            text.append(x.many(r)).append(' ').append(x.alike(r)).append(' ').append(x.small(r, 777)).append(' ');
+            text.append(x.entails(0, r)).append(x.entails(r, readings - 1)).append(", ");
+        }
+        return text.append(x.rule(4)).append(' ').append(x.most(0)).append(' ').append(x.most(1)).toString();
+    }
+
+    /** The answers are those of a new object that has been told the same SENTENCE. */
+    private static void asIfNew(String call, ScopedPhrases x, String text) {
+        CHECK.same("sentence behind " + call, Check.sentence(x), text);
+        CHECK.same("answers behind " + call, answers(x), answers(told(text)));
+    }
+
+    private static void answersFollowBecomes() {
+        CHECK.of("promise 8: QUANTIFIER (what 0), NOUN (1) of a PHRASE, VERB (2) becomes v");
+        ScopedPhrases x = new ScopedPhrases();
+        due("many(0): every, some", x.many(0), 2212);
+        due("many(1): every, some", x.many(1), 1916);
+        due("unlike: every, some", x.rule(4), 2);
+        x.becomes(0, 0, 1);
+        due("many(0): some, some", x.many(0), 1524);
+        due("alike(1): some, some", x.alike(1), 0);
+        due("unlike: some, some", x.rule(4), 1);
+        x.becomes(0, 0, 0);
+        x.becomes(1, 0, 2);
+        due("entails(1, 0): every, no", x.entails(1, 0), 0);
+        due("witness(1, 0): every, no", x.witness(1, 0), 55);
+        due("many(0): every, no", x.many(0), 2604);
+        x.becomes(1, 0, 1);
+        x.becomes(1, 1, 0);
+        due("many(0): every man, some man", x.many(0), 2648);
+        due("many(1): every man, some man", x.many(1), 1480);
+        x = told("every man that sees one dog sees some dog;");
+        due("many(0): sees", x.many(0), 4128);
+        due("alike(2): sees", x.alike(2), 1);
+        due("most(0): sees", x.most(0), 0);
+        x.becomes(0, 2, 1);
+        due("most(0): likes", x.most(0), NONE);
+        due("alike(2): likes", x.alike(2), 2);
+        due("many(0): likes", x.many(0), 3522);
+        asIfNew("becomes", x, "every man that sees one dog likes some dog;");
+    }
+
+    private static void answersFollowTheText() {
+        CHECK.of("1: A text that is taken tells the SENTENCE, in place of what there was");
+        String[] texts = {
+            "no man sees no dog;", "one man sees one dog;", EMPTY, ALL, STRUCTURES[3], STRUCTURES[4], STRUCTURES[5],
+            STRUCTURES[1], "every man sees one dog;"};
+        ScopedPhrases x = new ScopedPhrases();
+        for (String before : texts) {
+            for (String text : texts) {
+                x = told(before);
+                answers(x);
+                Check.tell(x, text);
+                asIfNew("text", x, text);
+            }
+        }
+        due("many(0)", x.many(0), 2004);
+        due("many(1)", x.many(1), 1516);
+        Check.tell(x, "no man sees no;");
+        due("many(0) behind a FAULT", x.many(0), 2004);
+    }
+
+    private static void answersFollowDraw() {
+        CHECK.of("promise 9: By a seed a SENTENCE (its READINGS, too)");
+        for (int seed = 0; seed < 12; seed++) {
+            ScopedPhrases x = new ScopedPhrases();
+            answers(x);
+            x.draw(seed);
+            asIfNew("draw", x, Check.sentence(x));
+            x.draw(seed + 7);
+            asIfNew("draw", x, Check.sentence(x));
+        }
+    }
+
+    private static void answersFollowBack() {
+        CHECK.of("promise 27: Both are as IMAGE k (READINGS, too)");
+        ScopedPhrases x = told("no man sees no dog;");
+        x.keep(0);
+        Check.tell(x, EMPTY);
+        x.keep(1);
+        due("many(4)", x.many(4), 0);
+        x.back(0);
+        due("many(0)", x.many(0), 2212);
+        due("witness(1, 0)", x.witness(1, 0), 1);
+        asIfNew("back", x, "no man sees no dog;");
+        x.back(1);
+        due("many(0)", x.many(0), 1096);
+        asIfNew("back", x, EMPTY);
+        x.becomes(0, 0, 3);
+        answers(x);
+        x.back(1);
+        asIfNew("back", x, EMPTY);
     }
 }

@@ -191,14 +191,13 @@ public final class EdgeSentenceTest {
 
     private static void becomesTooSmallOrLarge() {
         CHECK.of("promise 8: becomes v .. BAD");
-        ScopedPhrases x = told(STRUCTURES[4]);
         for (int p = 0; p < 4; p++) {
             for (int v : new int[] {-1, MIN, 4, 5, MAX}) {
-                refused(x, p, 0, v);
+                refused(told(STRUCTURES[4]), p, 0, v);
             }
             for (int v : new int[] {-1, MIN, 2, 3, MAX}) {
-                refused(x, p, 1, v);
-                refused(x, p, 2, v);
+                refused(told(STRUCTURES[4]), p, 1, v);
+                refused(told(STRUCTURES[4]), p, 2, v);
             }
         }
     }

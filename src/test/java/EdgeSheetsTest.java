@@ -264,8 +264,8 @@ public final class EdgeSheetsTest {
 
     private static void sheetIsNew() {
         CHECK.of("promise 28: A SHEET is a new row of CELLS 0: 1");
-        ScopedPhrases x = new ScopedPhrases();
         for (int k = 0; k < 4; k++) {
+            ScopedPhrases x = new ScopedPhrases();
             due("sheet(" + k + ", 0, 50)", x.sheet(k, 0, 50), 1);
             for (int i = 0; i < 50; i++) {
                 x.lay(k, i, -1);

@@ -500,6 +500,19 @@ public final class EdgeTextTest {
         Check.feed(x, "dog;");
         due("text", x.text(), 2);
         CHECK.same("sentence", Check.sentence(x), "no dog sees one dog;");
+        // what stood behind the end is not read as part of the last TOKEN
+        Check.feed(x, "no man sees no dogs");
+        due("end(18)", x.end(18), 19);
+        due("text", x.text(), -28);
+        due("fault", x.fault(), 2);
+        Check.feed(x, "no man sees no dog;");
+        due("end(18)", x.end(18), 19);
+        due("text without the sign", x.text(), -28);
+        due("fault", x.fault(), 2);
+        Check.feed(x, "no man sees no dog");
+        x.text();
+        Check.feed(x, "no man sees no do");
+        due("a letter short", x.text(), -25);
     }
 
     // ---- promise 4

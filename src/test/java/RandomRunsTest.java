@@ -160,7 +160,7 @@ public final class RandomRunsTest {
             return otherwise;
         }
         int[] row = {0, 1, 2, 3};
-        int n = x.rule(0) + (random.nextInt(10) == 0 ? 1 : 0);
+        int n = y.rule(0) + (random.nextInt(10) == 0 ? 1 : 0);
         int made = 0;
         for (int i = 0; i < n && i < 4; i++) {
             int j = i + random.nextInt(Math.min(n, 4) - i);

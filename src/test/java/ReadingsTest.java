@@ -190,9 +190,12 @@ public final class ReadingsTest {
     }
 
     private static void formulas() {
-        ScopedPhrases x = told("every man that sees some dog likes no man;");
+        String text = "every man that sees some dog likes no man;";
+        ScopedPhrases x = told(text);
         boolean[][] holding = new boolean[5][4128];
         for (int w = 0; w < 4128; w++) {
+            // an object is used for at most 512 calls
+            x = w % 16 == 0 ? told(text) : x;
             int n = x.world(w);
             boolean[][] is = new boolean[2][n];
             boolean[][][] does = new boolean[2][n][n];
@@ -210,6 +213,7 @@ public final class ReadingsTest {
                 due("small(" + r + ", " + w + ")", x.small(r, w), holding[r][w] ? 1 : 0);
             }
         }
+        x = told(text);
         for (int a = 0; a < 5; a++) {
             int many = 0;
             for (int w = 0; w < 4128; w++) {
@@ -227,6 +231,15 @@ public final class ReadingsTest {
         }
     }
 
+    private static ScopedPhrases changed(String text, int code) {
+        ScopedPhrases x = told(text);
+        for (int p = 0; p < x.rule(0); p++) {
+            x.becomes(p, 0, (code >> (2 * p)) & 3);
+        }
+        x.becomes(0, 2, code & 1);
+        return x;
+    }
+
     /** All quantifiers and both verbs over every structure: the counts of the class against its own worlds. */
     private static void allSentences() {
         String[] structures = {
@@ -239,13 +252,11 @@ public final class ReadingsTest {
             ScopedPhrases x = told(structures[s]);
             due("readings of '" + structures[s] + "'", x.rule(3), readings[s]);
             for (int code = 0; code < 256; code += 7) {
-                for (int p = 0; p < x.rule(0); p++) {
-                    x.becomes(p, 0, (code >> (2 * p)) & 3);
-                }
-                x.becomes(0, 2, code & 1);
                 int r = code % readings[s];
                 int many = 0;
                 for (int w = 0; w < 4128; w++) {
+                    // an object is used for at most 512 calls
+                    x = w % 400 == 0 ? changed(structures[s], code) : x;
                     many += x.small(r, w);
                 }
                 due("many(" + r + ") of '" + structures[s] + "' with " + code, x.many(r), many);

@@ -36,6 +36,8 @@ public final class WorldTest {
             }
         }
         for (int w = 32; w < 4128; w++) {
+            // an object is used for at most 512 calls
+            x = w % 32 == 0 ? new ScopedPhrases() : x;
             due("world(" + w + ")", x.world(w), 2);
             int bit = 0;
             for (int what = 0; what < 4; what++) {
@@ -57,8 +59,16 @@ public final class WorldTest {
         for (int n : new int[] {0, 5, -1, MIN, MAX}) {
             due("things(" + n + ")", x.things(n), BAD);
         }
+        renewed(x, 4, 3, 2, 1);
+        x = new ScopedPhrases();
+        renewed(x, 4, 4);
+        due("refused", x.things(5), BAD);
+        allFacts(x, 4, 1);
+    }
+
+    private static void renewed(ScopedPhrases x, int... sizes) {
         int had = 1;
-        for (int n : new int[] {4, 3, 2, 1, 4, 4}) {
+        for (int n : sizes) {
             due("things(" + n + ")", x.things(n), had);
             due("they are", x.rule(5), n);
             had = n;
@@ -66,8 +76,6 @@ public final class WorldTest {
             setAll(x, n);
             allFacts(x, n, 1);
         }
-        due("refused", x.things(5), BAD);
-        allFacts(x, 4, 1);
     }
 
     private static void setAll(ScopedPhrases x, int n) {
