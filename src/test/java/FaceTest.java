@@ -4,13 +4,21 @@ import java.lang.reflect.Method;
 import java.lang.reflect.Modifier;
 import java.nio.file.Files;
 import java.nio.file.Path;
+import java.util.ArrayList;
 import java.util.Arrays;
+import java.util.List;
 import java.util.Set;
 import java.util.TreeSet;
+import java.util.regex.Matcher;
+import java.util.regex.Pattern;
 
 /** The public face, the rules of the language that can be seen from outside, and what calls make. */
 public final class FaceTest {
     private static final Check CHECK = new Check("FaceTest");
+    private static final Path SOURCE = Path.of("src/main/java/ScopedPhrases.java");
+    /** A line that begins a method or a constructor: in the class, or in one inside it. */
+    private static final Pattern METHOD =
+        Pattern.compile("( {4}| {8})(?!if\\b|for\\b|while\\b|switch\\b)\\w[\\w\\[\\] ]*\\(.*\\{");
     private static final String[] FACE = {
         "feed 1", "end 1", "text 0", "fault 0", "rule 1", "phrase 2", "becomes 3", "draw 1", "within 2", "ahead 2",
         "row 2", "reading 1", "holds 1", "small 2", "many 1", "alike 1", "entails 2", "most 1", "witness 2", "world 1",
@@ -23,6 +31,8 @@ public final class FaceTest {
         members();
         constants();
         source();
+        sizes();
+        library();
         nothingIsMade();
         CHECK.close();
     }
@@ -53,6 +63,9 @@ public final class FaceTest {
         for (Field f : c.getDeclaredFields()) {
             boolean constant = Arrays.asList("BAD", "STATE", "FULL", "NONE").contains(f.getName());
             CHECK.that(f + " is a constant or private", constant || Modifier.isPrivate(f.getModifiers()));
+            CHECK.that(f + " is final", Modifier.isFinal(f.getModifiers()));
+            CHECK.that(f + " is of a kind that may be static", !Modifier.isStatic(f.getModifiers())
+                || f.getType() == int.class || f.getType() == long.class || f.getType() == long[].class);
         }
         CHECK.that("at most some twelve classes", c.getDeclaredClasses().length < 12);
         for (Class<?> inside : c.getDeclaredClasses()) {
@@ -78,13 +91,72 @@ public final class FaceTest {
     }
 
     private static void source() throws Exception {
-        String text = Files.readString(Path.of("src/main/java/ScopedPhrases.java"));
-        String bare = text.replaceAll("(?s)/\\*.*?\\*/", " ").replaceAll("//[^\n]*", " ").replaceAll("\"[^\"\n]*\"", "S");
+        String text = Files.readString(SOURCE);
+        String bare = bareSource();
         for (String word : FORBIDDEN) {
             CHECK.that("no '" + word + "' in the class", !bare.matches("(?s).*\\b" + word + "\\b.*"));
         }
         CHECK.that("no lambda, no method reference", !bare.contains("->") && !bare.contains("::"));
         CHECK.that("signs 1 to 126 alone", text.chars().allMatch(c -> c == '\n' || (c >= 32 && c < 127)));
+    }
+
+    /** Rule 11: at most seven parameters, some sixty lines a method, some twenty fields a class. */
+    private static void sizes() throws Exception {
+        int declared = 0;
+        for (Class<?> c : allClasses()) {
+            declared += c.getDeclaredMethods().length + c.getDeclaredConstructors().length;
+            int fields = 0;
+            for (Field f : c.getDeclaredFields()) {
+                fields += Modifier.isStatic(f.getModifiers()) ? 0 : 1;
+            }
+            CHECK.that(c + " has " + fields + " fields", fields <= 20);
+            for (Method m : c.getDeclaredMethods()) {
+                CHECK.that(m + " takes at most seven", m.getParameterCount() <= 7);
+            }
+        }
+        int begun = 0;
+        int methods = 0;
+        String indent = "";
+        List<String> lines = Files.readAllLines(SOURCE);
+        for (int i = 0; i < lines.size(); i++) {
+            Matcher head = METHOD.matcher(lines.get(i));
+            if (head.matches()) {
+                indent = head.group(1);
+                begun = i;
+                methods++;
+            } else if (begun > 0 && lines.get(i).equals(indent + "}")) {
+                CHECK.that("line " + (begun + 1) + " begins a short method", i - begun < 60);
+                begun = 0;
+            }
+        }
+        CHECK.due("methods found in the text", methods, declared);
+        CHECK.due("a method without an end", begun, 0);
+    }
+
+    /** Rule 4: what is called by a point is the class's own, or of the few that it needs of the library. */
+    private static void library() throws Exception {
+        Set<String> known = new TreeSet<>(Arrays.asList("length", "charAt", "bitCount"));
+        for (Class<?> c : allClasses()) {
+            for (Method m : c.getDeclaredMethods()) {
+                known.add(m.getName());
+            }
+        }
+        Matcher call = Pattern.compile("\\.(\\w+)\\(").matcher(bareSource());
+        while (call.find()) {
+            CHECK.that(call.group(1) + " may be called", known.contains(call.group(1)));
+        }
+    }
+
+    private static List<Class<?>> allClasses() {
+        List<Class<?>> all = new ArrayList<>(Arrays.asList(ScopedPhrases.class.getDeclaredClasses()));
+        all.add(ScopedPhrases.class);
+        return all;
+    }
+
+    /** The class without its remarks, and with S for each text. */
+    private static String bareSource() throws Exception {
+        return Files.readString(SOURCE).replaceAll("(?s)/\\*.*?\\*/", " ").replaceAll("//[^\n]*", " ")
+            .replaceAll("\"[^\"\n]*\"", "S");
     }
 
     /** All calls of a run share one room: the calls themselves are to make nothing at all. */
