@@ -864,14 +864,17 @@ public final class ScopedPhrases {
 
         private int placeOf(Sentence sentence, int x) {
             int host = sentence.hostOf(x);
-            if (host == NONE) {
+            if (host < 0 || host >= MOST_PHRASES) {
                 return TOP;
             }
             if (turnNow[x] > turnNow[host]) {
                 return host;
             }
             int where = placeNow[host];
-            for (int i = 0; i < MOST_PHRASES && where != TOP && turnNow[x] < turnNow[where]; i++) {
+            for (int i = 0; i < MOST_PHRASES; i++) {
+                if (where < 0 || where >= MOST_PHRASES || turnNow[x] > turnNow[where]) {
+                    return where;
+                }
                 where = placeNow[where];
             }
             return where;
@@ -953,7 +956,7 @@ public final class ScopedPhrases {
         }
 
         void learn(Sentence sentence, Readings readings, int r) {
-            if (known[r]) {
+            if (r < 0 || r >= MOST_READINGS || known[r]) {
                 return;
             }
             takeShape(readings, r, sentence.phrases);
@@ -1000,8 +1003,9 @@ public final class ScopedPhrases {
             for (int p = 0; p < phrases; p++) {
                 int cell = r * MOST_PHRASES + p;
                 next[p] = NOBODY;
-                if (readings.rank[cell] == 0) {
-                    first[readings.place[cell]] = p;
+                int at = readings.place[cell];
+                if (readings.rank[cell] == 0 && at >= 0 && at < PLACES) {
+                    first[at] = p;
                 }
                 for (int q = 0; q < phrases; q++) {
                     int other = r * MOST_PHRASES + q;
@@ -1026,8 +1030,8 @@ public final class ScopedPhrases {
 
         /** In which WORLDS a place does from its PHRASE x on; NOBODY: behind the last one. */
         private long walk(Sentence sentence, int at, int x, int depth) {
-            if (x == NOBODY) {
-                return at == TOP ? topFact(sentence) : hostFact(sentence, at);
+            if (x < 0 || x >= MOST_PHRASES) {
+                return at >= 0 && at < MOST_PHRASES ? hostFact(sentence, at) : topFact(sentence);
             }
             // each level gives a THING to one PHRASE more, so that no READING goes deeper
             return depth >= MOST_PHRASES ? 0L : quantified(sentence, at, x, depth);
@@ -1060,16 +1064,23 @@ public final class ScopedPhrases {
         }
 
         private long topFact(Sentence sentence) {
-            return facts[verbFact(size, sentence.verb, given[0], given[sentence.objectAt])];
+            int object = sentence.objectAt;
+            if (object < 0 || object >= MOST_PHRASES) {
+                return 0L;
+            }
+            int j = verbFact(size, sentence.verb, given[0], given[object]);
+            return j >= 0 && j < MOST_FACTS ? facts[j] : 0L;
         }
 
         private long hostFact(Sentence sentence, int host) {
-            long isNoun = facts[nounFact(size, sentence.noun[host], given[host])];
+            int i = nounFact(size, sentence.noun[host], given[host]);
+            long isNoun = i >= 0 && i < MOST_FACTS ? facts[i] : 0L;
             int guest = sentence.guestOf(host);
-            if (guest == NONE) {
+            if (guest < 0 || guest >= MOST_PHRASES) {
                 return isNoun;
             }
-            return isNoun & facts[verbFact(size, sentence.hostVerb[host], given[host], given[guest])];
+            int j = verbFact(size, sentence.hostVerb[host], given[host], given[guest]);
+            return j >= 0 && j < MOST_FACTS ? isNoun & facts[j] : 0L;
         }
     }
 
