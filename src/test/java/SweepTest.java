@@ -1,5 +1,5 @@
 /**
- * Promises 6 and 10 to 20: every row of quantifiers for every shape that a sentence can have.
+ * Promises 6, 10 to 14 and 16 to 20: every row of quantifiers for every shape that a sentence can have.
  *
  * The answers due come from a third program, in another language and by another session than the class and
  * Model.java. There are too many to write out: all answers of one call and one shape are told as one number, which
